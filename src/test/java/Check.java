@@ -31,8 +31,15 @@ final class Check {
             call.run();
         } catch (RuntimeException e) {
             got = e.getClass();
+            note(isOfTheDesk(e), what + " was thrown by the machine or the library");
         }
         note(got == want, what + " threw " + got + ", due is " + want);
+    }
+
+    /** Whether the desk itself has thrown it: then its code stands on top of the stack. */
+    static boolean isOfTheDesk(RuntimeException e) {
+        StackTraceElement[] stack = e.getStackTrace();
+        return stack.length > 0 && stack[0].getClassName().equals("DividendDesk");
     }
 
     private static void note(boolean isRight, String fault) {

@@ -12,6 +12,7 @@ public final class DividendsTest {
         promise16HeldOfPersonsAndCompanies();
         promise16HeldOfPartnerships();
         promise16HeldRoundsEachShare();
+        promise16HeldByTheFirstAndLastMember();
         promise17Due();
         promise17DueStaysAsPaid();
         promises18And19Sums();
@@ -172,6 +173,33 @@ public final class DividendsTest {
         desk.setParts(0, 2, 100);
         desk.pay(1000);
         Check.equal("the largest amounts", desk.held(3, 0), 100000000 + 150000000);
+    }
+
+    private static void promise16HeldByTheFirstAndLastMember() {
+        DividendDesk desk = new DividendDesk();
+        desk.setTreaty(0, 0, 0);
+        desk.addHolder(PERSON, 0);
+        for (int i = 1; i < 19; i++) {
+            desk.addHolder(PARTNERSHIP, NONE);
+        }
+        desk.addHolder(COMPANY, 1);
+        Check.equal("parts of the first", desk.setParts(18, 0, 1), 0);
+        Check.equal("parts of the last", desk.setParts(18, 19, 2), 0);
+        desk.setShares(18, 10);
+        desk.giveForm(18);
+        desk.pay(100);
+        Check.equal("without the first one's form", desk.held(0, 18), 100 + 199);
+        desk.giveForm(0);
+        desk.pay(100);
+        Check.equal("with the first one's form", desk.held(1, 18), 199);
+        Check.equal("parts of the first before", desk.setParts(18, 0, 0), 1);
+        desk.pay(100);
+        Check.equal("all for the last", desk.held(2, 18), 300);
+        desk.setTreaty(1, 1, 1);
+        desk.giveForm(19);
+        desk.pay(100);
+        Check.equal("with the last one's form", desk.held(3, 18), 10);
+        Check.equal("parts of the last before", desk.setParts(18, 19, 0), 2);
     }
 
     private static void promise17Due() {

@@ -271,6 +271,8 @@ public final class HoldersTest {
         desk.addHolder(PERSON, 2);
         desk.addHolder(PARTNERSHIP, NONE);
         desk.addHolder(COMPANY, 3);
+        desk.addHolder(COMPANY, 4);
+        desk.setShares(4, 100000);
         Check.equal("at first", desk.treatyRate(0), 30);
         desk.setTreaty(2, 15, 5);
         desk.setTreaty(3, 10, 20);
@@ -280,8 +282,9 @@ public final class HoldersTest {
         Check.equal("general", desk.treatyRate(0), 15);
         Check.argument("a partnership has none", () -> desk.treatyRate(2));
         Check.index("holder -1", () -> desk.treatyRate(-1));
-        Check.index("holder 4", () -> desk.treatyRate(4));
+        Check.index("holder 5", () -> desk.treatyRate(5));
         desk.pass(365);
+        Check.equal("large, in a land whose treaty was not set", desk.treatyRate(4), 30);
         Check.equal("large", desk.treatyRate(0), 5);
         Check.equal("a person", desk.treatyRate(1), 15);
         Check.equal("large, but not less", desk.treatyRate(3), 10);

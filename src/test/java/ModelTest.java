@@ -5,11 +5,12 @@ public final class ModelTest {
     private static final int RUNS = 3000;
     private static final int CALLS = 512;
     private static final int CALL_KINDS = 20;
-    private static final int[] OFTEN = {0, 2, 2, 2, 3, 3, 4, 4, 4, 5, 5, 8, 9, 10, 11, 11, 13, 14, 14, 15, 16, 17,
-        18, 18, 18, 18, 19, 19, 19, 19};
-    private static final int[] DAYS = {1, 1, 1, 1, 1, 2, 2, 7, 29, 30, 30, 59, 60, 61, 100, 304, 305, 364, 365, 366, 1020,
-        1079, 1080, 1081, 2000};
-    private static final int[] SHARES = {0, 1, 7, 99, 1000, 33333, 99999, 100000, 100001, 200000, 500000};
+    private static final int[] OFTEN = {0, 2, 2, 2, 3, 3, 3, 4, 4, 5, 5, 8, 9, 10, 11, 11, 13, 14, 14, 15, 16, 17,
+        18, 18, 18, 18, 18, 18, 19, 19, 19, 19, 19, 19};
+    private static final int[] DAYS = {1, 1, 1, 1, 1, 1, 1, 2, 2, 2, 2, 5, 7, 7, 20, 29, 29, 30, 30, 59, 60, 61, 100,
+        364, 365, 366, 1079, 1080, 1081, 2000};
+    private static final int[] SHARES = {0, 1, 7, 11, 99, 101, 1000, 1001, 33333, 99999, 100000, 100000, 100000,
+        100001, 100001, 150000};
     private static final int[] PARTS = {0, 0, 1, 1, 2, 3, 7, 50, 99, 100};
     private static final int[] CENTS = {1, 2, 3, 10, 99, 333, 999, 1000};
     private static final int[] ODD = {Integer.MIN_VALUE, -2, -1, 0, 3, 6, 20, 31, 40, 101, 1001, 2001, 1000001,
@@ -47,9 +48,17 @@ public final class ModelTest {
         int[] kinds = new int[20];
         int holders = 2 + draw(19);
         int holderCount = 0;
+        int holder = 0;
         for (int i = 0; i < CALLS; i++) {
-            int call = holderCount < holders ? 1 : draw(4) == 0 ? draw(CALL_KINDS) : oneOf(OFTEN);
-            int[] arguments = argumentsOf(call, kinds, Math.max(1, holderCount), model.dividends());
+            boolean isStart = holderCount < holders && i < 3 * holders;
+            int call = isStart ? 1 : draw(4) == 0 ? draw(CALL_KINDS) : oneOf(OFTEN);
+            // The same holder often comes again, so that forms, shares, dividends and refunds meet.
+            holder = draw(3) > 0 ? holder : draw(Math.max(1, holderCount));
+            int[] arguments = argumentsOf(call, kinds, holder, Math.max(1, holderCount), model.dividends());
+            if (call == 5 && run % 2 == 1) {
+                // Quick refunds need runs in which less time passes.
+                arguments[0] = 1 + arguments[0] % 8;
+            }
             for (int k = 0; k < 3; k++) {
                 arguments[k] = draw(oddOneIn) == 0 ? oneOf(ODD) : arguments[k];
             }
@@ -72,8 +81,7 @@ public final class ModelTest {
         }
     }
 
-    private static int[] argumentsOf(int call, int[] kinds, int holders, int dividends) {
-        int holder = draw(holders);
+    private static int[] argumentsOf(int call, int[] kinds, int holder, int holders, int dividends) {
         // The last dividends can still be refunded, so most calls ask for them.
         int dividend = draw(4) == 0 ? draw(40) : Math.max(0, dividends - 1 - draw(4));
         switch (call) {
@@ -105,7 +113,8 @@ public final class ModelTest {
         try {
             return desk != null ? ofDesk(call, a, desk) : ofModel(call, a, model);
         } catch (RuntimeException e) {
-            return e.getClass();
+            boolean isThrown = desk == null || Check.isOfTheDesk(e);
+            return isThrown ? e.getClass() : "an exception of the machine or the library";
         }
     }
 

@@ -110,11 +110,14 @@ public final class RefundsTest {
         DividendDesk desk = deskWithPerson();
         desk.addHolder(PERSON, 0);
         desk.giveForm(1);
-        Check.state("no shares on the pay day", () -> desk.refund(0, 1));
+        Check.state("not there on the pay day", () -> desk.refund(0, 1));
+        desk.pay(10);
+        Check.state("no shares on the pay day", () -> desk.refund(1, 1));
         desk.setShares(1, 5);
+        Check.state("shares came after the second was paid", () -> desk.refund(1, 1));
         Check.state("shares came after it was paid", () -> desk.refund(0, 1));
         Check.index("dividend -1", () -> desk.refund(-1, 0));
-        Check.index("dividend 1", () -> desk.refund(1, 0));
+        Check.index("dividend 2", () -> desk.refund(2, 0));
         Check.index("holder -1", () -> desk.refund(0, -1));
         Check.index("holder 2", () -> desk.refund(0, 2));
         desk.pass(2000);
@@ -165,14 +168,19 @@ public final class RefundsTest {
         DividendDesk desk = deskWithPerson();
         desk.addHolder(PERSON, 0);
         desk.giveForm(1);
-        Check.state("no shares on the pay day", () -> desk.claim(0, 1));
+        Check.state("not there on the pay day", () -> desk.claim(0, 1));
+        desk.pay(10);
+        Check.state("no shares on the pay day", () -> desk.claim(1, 1));
         desk.setShares(1, 5);
+        Check.state("shares came after the second was paid", () -> desk.claim(1, 1));
         Check.state("shares came after it was paid", () -> desk.claim(0, 1));
         Check.index("dividend -1", () -> desk.claim(-1, 0));
-        Check.index("dividend 1", () -> desk.claim(1, 0));
+        Check.index("dividend 2", () -> desk.claim(2, 0));
         Check.index("holder -1", () -> desk.claim(0, -1));
         Check.index("holder 2", () -> desk.claim(0, 2));
         Check.equal("a thrown claim changed nothing", desk.held(0, 0), 303);
+        desk.pass(1081);
+        Check.index("the index is looked at first", () -> desk.claim(0, 2));
     }
 
     private static void refundsAndClaimsInTurn() {
