@@ -142,6 +142,9 @@ public final class HolderEdgesTest {
         Run.of("the member is a partnership", holders,
             "setParts 0 3 1 throws Argument; setParts 3 0 1 throws Argument; setParts 0 0 1 throws Argument",
             "setParts 0 3 0 throws Argument");
+        Run.of("a refused partnership is no member and takes no part", holders,
+            "setParts 0 2 9; setParts 0 3 100 throws Argument; setParts 0 0 100 throws Argument; setShares 0 1",
+            "pay 18; held 0 0 = 4; due 0 0 = 4");
         Run.of("refused parts change nothing", holders,
             "setParts 0 1 101 throws Argument; setParts 1 2 5 throws Argument; setParts 0 3 5 throws Argument",
             "setParts 0 4 5 throws Index; setParts 0 1 0 = 9; setParts 0 2 0 = 0; setParts 3 2 0 = 8");
@@ -238,6 +241,13 @@ public final class HolderEdgesTest {
             "addHolder COMPANY 0; giveForm 0; setShares 0 100000; pass 364; pass 2001 throws Argument",
             "isLarge 0 = false; pass 0 throws Argument; isLarge 0 = false; pass 716; pass 2001 throws Argument",
             "day = 1080; isValid 0 = true");
+        Run.of("refused days out of range do not end this day",
+            "addHolder COMPANY 0; setShares 0 100000; pass 364; setShares 0 99999; pass 0 throws Argument",
+            "pass 2001 throws Argument; setShares 0 100000; pass 1 = 365; isLarge 0 = true; setShares 0 99999",
+            "pass -1 throws Argument; setShares 0 100000; isLarge 0 = true");
+        Run.of("refused days out of range are no days with enough shares",
+            "addHolder COMPANY 0; setShares 0 100000; pass 0 throws Argument; setShares 0 99999; pass 1",
+            "setShares 0 100000; pass 364 = 365; isLarge 0 = false; pass 1; isLarge 0 = true");
         Run.of("refused days above 20000 do not end this day",
             "addHolder COMPANY 0; 9x pass 2000; pass 1635 = 19635; setShares 0 99999; pass 1000 throws State",
             "setShares 0 100000; pass 365 = 20000; isLarge 0 = true; setShares 0 0; pass 1 throws State",

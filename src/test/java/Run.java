@@ -91,6 +91,10 @@ final class Run {
             compare("setTreaty", land, land + 3, land);
         }
         compare("addHolder", DividendDesk.COMPANY, 1);
+        // Shares for those that had none, so that the last dividend tells all parts and treaties.
+        for (int holder = 0; holder < kinds.size(); holder++) {
+            compare("setShares", holder, 100 + holder);
+        }
         compare("pay", 333);
         compareDividend(Math.max(0, desk.dividends() - 1), "due", "refund", "claim");
         for (int day = 0; day < 3; day++) {
